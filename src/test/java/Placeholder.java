@@ -1,0 +1,1 @@
+public final class Placeholder { public static void main(String[] a) { } }
