@@ -477,7 +477,7 @@ public final class StreamDesk {
         return isLetter(sign) || isDigit(sign);
     }
 
-    /** The tokens of a tape, up to the first one that is bad, or to the end. */
+    /** The tokens of a tape; behind them stands one that is its end. */
     private static final class Tokens {
         private final int[] kinds = new int[MAX_TAPE + 1];
         private final int[] starts = new int[MAX_TAPE + 1];
@@ -512,14 +512,14 @@ public final class StreamDesk {
 
         void scan(byte[] tape, int length) {
             count = 0;
+            int end = Math.min(length, tape.length);
             int tokenEnd = 0;
-            for (int at = 0; at < length && at < tape.length; at++) {
-                if (at < tokenEnd || tape[at] == ' ' || tape[at] == '\n') {
-                    continue;
+            for (int at = 0; at < end; at++) {
+                if (at >= tokenEnd && tape[at] != ' ' && tape[at] != '\n') {
+                    tokenEnd = scanToken(tape, end, at);
                 }
-                tokenEnd = scanToken(tape, length, at);
             }
-            addToken(END, length, 0);
+            addToken(END, end, 0);
         }
 
         /** Adds the token that begins there; returns where it ends. */
@@ -579,13 +579,19 @@ public final class StreamDesk {
 
     /**
      * Looks at the form of a program, and tells its meaning what it comes by. Behind an error of
-     * form each token counts as bad, so that all loops end.
+     * form the token that is looked at stays a bad one, so that all loops end.
      */
     private static final class Parser {
         private final Tokens tokens;
         private final Meaning meaning;
-        private int index;
         private int failedAt;
+
+        // The token that is looked at.
+        private int index;
+        private int kind;
+        private int position;
+        private long value;
+
         private int expressionTokens;
 
         Parser(Tokens tokens, Meaning meaning) {
@@ -595,10 +601,11 @@ public final class StreamDesk {
 
         /** Returns the position of the error of form; -1 if there is none. */
         int parse() {
-            index = 0;
             failedAt = -1;
-            for (int i = 0; i < MAX_TAPE && failedAt < 0 && (i == 0 || kind() != END); i++) {
-                switch (kind()) {
+            index = -1;
+            advance();
+            for (int i = 0; i < MAX_TAPE && failedAt < 0 && (i == 0 || kind != END); i++) {
+                switch (kind) {
                     case SOURCE: source(); break;
                     case STEP: step(); break;
                     case CHECK: check(); break;
@@ -609,25 +616,25 @@ public final class StreamDesk {
         }
 
         private void source() {
-            meaning.startStream(position());
-            meaning.startWork(KIND_SOURCE, position());
+            meaning.startStream(position);
+            meaning.startWork(KIND_SOURCE, position);
             take(SOURCE);
             takeName(NEW_STREAM);
             takeNames(NEW_COLUMN);
-            if (kind() == DELAY) {
+            if (kind == DELAY) {
                 takeRange(DELAY);
             }
             meaning.endStream();
         }
 
         private void check() {
-            meaning.startCheck(position());
+            meaning.startCheck(position);
             take(CHECK);
             takeName(FIRST_INPUT);
             take(':');
             wholeExpression();
             take(ELSE);
-            int fate = kind();
+            int fate = kind;
             if (fate == DROP || fate == HOLD || fate == STOP) {
                 take(fate);
                 meaning.endCheck(fate);
@@ -637,33 +644,47 @@ public final class StreamDesk {
         }
 
         private void step() {
-            meaning.startStream(position());
+            meaning.startStream(position);
             take(STEP);
             takeName(NEW_STREAM);
             take('=');
-            switch (kind()) {
-                case KEEP: keep(); break;
-                case MAKE: make(); break;
-                case PICK: pick(); break;
-                case MERGE: merge(); break;
-                case JOIN: join(); break;
-                case FIRST: first(); break;
+            int work = kind;
+            if (kindOfWork(work) == KIND_SOURCE) {
+                fail();
+            }
+            meaning.startWork(kindOfWork(work), position);
+            take(work);
+            takeName(FIRST_INPUT);
+            switch (work) {
+                case KEEP: take(WHERE); wholeExpression(); break;
+                case MAKE: newColumns(); break;
+                case PICK: takeNames(PICKED); break;
+                case MERGE: secondInput(); break;
+                case JOIN: secondInput(); key(ON); takeRange(WITHIN); break;
+                case FIRST: key(BY); takeRange(WITHIN); break;
                 case WINDOW: window(); break;
-                default: fail(); break;
+                default: break;
             }
             meaning.endStream();
         }
 
-        private void keep() {
-            startWork(KEEP, KIND_KEEP);
-            take(WHERE);
-            wholeExpression();
+        /** The kind of stream that a work makes; KIND_SOURCE if the word begins no work. */
+        private static int kindOfWork(int word) {
+            switch (word) {
+                case KEEP: return KIND_KEEP;
+                case MAKE: return KIND_MAKE;
+                case PICK: return KIND_PICK;
+                case MERGE: return KIND_MERGE;
+                case JOIN: return KIND_JOIN;
+                case FIRST: return KIND_FIRST;
+                case WINDOW: return KIND_WINDOW;
+                default: return KIND_SOURCE;
+            }
         }
 
-        private void make() {
-            startWork(MAKE, KIND_MAKE);
+        private void newColumns() {
             take(WITH);
-            for (int i = 0; i < MAX_TAPE && (i == 0 || kind() == ','); i++) {
+            for (int i = 0; i < MAX_TAPE && (i == 0 || kind == ','); i++) {
                 takeComma(i);
                 takeName(NEW_COLUMN);
                 take('=');
@@ -671,43 +692,24 @@ public final class StreamDesk {
             }
         }
 
-        private void pick() {
-            startWork(PICK, KIND_PICK);
-            takeNames(PICKED);
-        }
-
-        private void merge() {
-            startWork(MERGE, KIND_MERGE);
+        private void secondInput() {
             take(',');
             takeName(SECOND_INPUT);
         }
 
-        private void join() {
-            startWork(JOIN, KIND_JOIN);
-            take(',');
-            takeName(SECOND_INPUT);
-            take(ON);
+        private void key(int word) {
+            take(word);
             takeName(KEY);
-            takeRange(WITHIN);
-        }
-
-        private void first() {
-            startWork(FIRST, KIND_FIRST);
-            take(BY);
-            takeName(KEY);
-            takeRange(WITHIN);
         }
 
         private void window() {
-            startWork(WINDOW, KIND_WINDOW);
-            take(BY);
-            takeName(KEY);
+            key(BY);
             takeRange(EVERY);
-            if (kind() == LATE) {
+            if (kind == LATE) {
                 takeRange(LATE);
             }
             take('(');
-            for (int i = 0; i < MAX_TAPE && (i == 0 || kind() == ','); i++) {
+            for (int i = 0; i < MAX_TAPE && (i == 0 || kind == ','); i++) {
                 takeComma(i);
                 if (startTotal() != COUNT) {
                     wholeExpression();
@@ -716,20 +718,14 @@ public final class StreamDesk {
             take(')');
         }
 
-        private void startWork(int word, int kindOfStream) {
-            meaning.startWork(kindOfStream, position());
-            take(word);
-            takeName(FIRST_INPUT);
-        }
-
         /** Returns the word that says what the total is. */
         private int startTotal() {
             takeName(NEW_COLUMN);
             take('=');
-            int total = kind();
+            int total = kind;
             if (total == COUNT || total == SUM || total == LEAST || total == MOST || total == LAST) {
-                take(total);
                 meaning.setTotal(total);
+                take(total);
             } else {
                 fail();
             }
@@ -745,8 +741,8 @@ public final class StreamDesk {
 
         private void expression(int depth) {
             both(depth);
-            for (int i = 0; i < MAX_EXPRESSION && kind() == OR; i++) {
-                takeInExpression();
+            for (int i = 0; i < MAX_EXPRESSION && kind == OR; i++) {
+                takeInExpression(OR, depth);
                 both(depth);
                 meaning.emit(OR, 0);
             }
@@ -754,8 +750,8 @@ public final class StreamDesk {
 
         private void both(int depth) {
             relation(depth);
-            for (int i = 0; i < MAX_EXPRESSION && kind() == AND; i++) {
-                takeInExpression();
+            for (int i = 0; i < MAX_EXPRESSION && kind == AND; i++) {
+                takeInExpression(AND, depth);
                 relation(depth);
                 meaning.emit(AND, 0);
             }
@@ -763,10 +759,10 @@ public final class StreamDesk {
 
         private void relation(int depth) {
             sum(depth);
-            int sign = kind();
+            int sign = kind;
             if (sign == '=' || sign == '<' || sign == '>' || sign == UNEQUAL || sign == LESS_EQUAL
                     || sign == MORE_EQUAL) {
-                takeInExpression();
+                takeInExpression(sign, depth);
                 sum(depth);
                 meaning.emit(sign, 0);
             }
@@ -774,9 +770,9 @@ public final class StreamDesk {
 
         private void sum(int depth) {
             product(depth);
-            for (int i = 0; i < MAX_EXPRESSION && (kind() == '+' || kind() == '-'); i++) {
-                int sign = kind();
-                takeInExpression();
+            for (int i = 0; i < MAX_EXPRESSION && (kind == '+' || kind == '-'); i++) {
+                int sign = kind;
+                takeInExpression(sign, depth);
                 product(depth);
                 meaning.emit(sign, 0);
             }
@@ -784,36 +780,35 @@ public final class StreamDesk {
 
         private void product(int depth) {
             factor(depth);
-            for (int i = 0; i < MAX_EXPRESSION
-                    && (kind() == '*' || kind() == '/' || kind() == '%'); i++) {
-                int sign = kind();
-                takeInExpression();
+            for (int i = 0; i < MAX_EXPRESSION && (kind == '*' || kind == '/' || kind == '%'); i++) {
+                int sign = kind;
+                takeInExpression(sign, depth);
                 factor(depth);
                 meaning.emit(sign, 0);
             }
         }
 
         private void factor(int depth) {
-            int sign = kind();
+            int sign = kind;
             switch (sign) {
                 case NUMBER:
                 case TIME:
-                    meaning.emit(sign, tokens.valueOf(index));
-                    takeInExpression();
+                    meaning.emit(sign, value);
+                    takeInExpression(sign, depth);
                     break;
                 case NAME:
-                    meaning.useColumn(tokens.valueOf(index), position());
-                    takeInExpression();
+                    meaning.useColumn(value, position);
+                    takeInExpression(sign, depth);
                     break;
                 case '(':
-                    if (goesDeeper(sign, depth)) {
+                    if (takeInExpression('(', depth + 1)) {
                         expression(depth + 1);
-                        takeClosing();
+                        takeInExpression(')', depth);
                     }
                     break;
                 case '-':
                 case NOT:
-                    if (goesDeeper(sign, depth)) {
+                    if (takeInExpression(sign, depth + 1)) {
                         factor(depth + 1);
                         meaning.emit(sign == '-' ? NEGATE : NOT, 0);
                     }
@@ -830,52 +825,36 @@ public final class StreamDesk {
         }
 
         private void function(int word, int depth) {
-            int at = position();
-            takeInExpression();
-            if (!goesDeeper('(', depth)) {
+            int at = position;
+            takeInExpression(word, depth);
+            if (!takeInExpression('(', depth + 1)) {
                 return;
             }
             expression(depth + 1);
             int arguments = 1;
-            for (int i = 0; i < MAX_EXPRESSION && kind() == ','; i++) {
-                takeInExpression();
+            for (int i = 0; i < MAX_EXPRESSION && kind == ','; i++) {
+                takeInExpression(',', depth + 1);
                 expression(depth + 1);
                 arguments++;
             }
-            takeClosing();
+            takeInExpression(')', depth);
             meaning.endFunction(word, arguments, at);
         }
 
-        /** Takes a token behind which the depth is one greater; tells whether it may be. */
-        private boolean goesDeeper(int token, int depth) {
-            if (kind() != token || depth >= MAX_DEPTH) {
+        /** Takes a token of an expression, behind which the depth is as given, if it may be. */
+        private boolean takeInExpression(int token, int depthBehind) {
+            if (kind != token || expressionTokens >= MAX_EXPRESSION || depthBehind > MAX_DEPTH) {
                 fail();
                 return false;
             }
-            takeInExpression();
-            return failedAt < 0;
-        }
-
-        private void takeClosing() {
-            if (kind() == ')') {
-                takeInExpression();
-            } else {
-                fail();
-            }
-        }
-
-        private void takeInExpression() {
-            if (expressionTokens >= MAX_EXPRESSION) {
-                fail();
-            } else {
-                expressionTokens++;
-                take(kind());
-            }
+            expressionTokens++;
+            advance();
+            return true;
         }
 
         private void takeNames(int role) {
             take('(');
-            for (int i = 0; i < MAX_TAPE && (i == 0 || kind() == ','); i++) {
+            for (int i = 0; i < MAX_TAPE && (i == 0 || kind == ','); i++) {
                 takeComma(i);
                 takeName(role);
             }
@@ -890,8 +869,8 @@ public final class StreamDesk {
         }
 
         private void takeName(int role) {
-            if (kind() == NAME) {
-                meaning.lookAtName(role, tokens.valueOf(index), position());
+            if (kind == NAME) {
+                meaning.lookAtName(role, value, position);
             }
             take(NAME);
         }
@@ -899,32 +878,35 @@ public final class StreamDesk {
         /** Takes a word and the number behind it. */
         private void takeRange(int word) {
             take(word);
-            if (kind() == NUMBER) {
-                meaning.lookAtRange(word, tokens.valueOf(index), position());
+            if (kind == NUMBER) {
+                meaning.lookAtRange(word, value, position);
             }
             take(NUMBER);
         }
 
         private void take(int token) {
-            if (kind() == token && token != BAD) {
-                index++;
+            if (kind == token) {
+                advance();
             } else {
                 fail();
             }
         }
 
+        private void advance() {
+            if (failedAt >= 0) {
+                return;
+            }
+            index++;
+            kind = tokens.kindAt(index);
+            position = tokens.startOf(index);
+            value = tokens.valueOf(index);
+        }
+
         private void fail() {
             if (failedAt < 0) {
-                failedAt = position();
+                failedAt = position;
             }
-        }
-
-        private int kind() {
-            return failedAt < 0 ? tokens.kindAt(index) : BAD;
-        }
-
-        private int position() {
-            return tokens.startOf(index);
+            kind = BAD;
         }
     }
 
@@ -1113,21 +1095,16 @@ public final class StreamDesk {
         }
 
         private void addColumn(long word, int at) {
-            if (hasName(word)) {
-                report(ERROR_TAKEN, at);
-            } else if (width < names.length) {
+            for (int i = 0; i < width && i < names.length; i++) {
+                if (names[i] == word) {
+                    report(ERROR_TAKEN, at);
+                    return;
+                }
+            }
+            if (width < names.length) {
                 names[width] = word;
                 width++;
             }
-        }
-
-        private boolean hasName(long word) {
-            for (int i = 0; i < width && i < names.length; i++) {
-                if (names[i] == word) {
-                    return true;
-                }
-            }
-            return false;
         }
 
         private void setFirstInput(long word, int at) {
@@ -1164,10 +1141,8 @@ public final class StreamDesk {
             if (stream.key < 0 || stream.otherKey < 0) {
                 report(ERROR_UNKNOWN, at);
             } else if (stream.kind == KIND_WINDOW) {
-                addColumn(BEGIN, at);
                 addColumn(word, at);
-                names[0] = word;
-                names[1] = BEGIN;
+                addColumn(BEGIN, at);
             }
         }
 
@@ -1244,7 +1219,8 @@ public final class StreamDesk {
                 int operation = operations[i];
                 if (operation == NUMBER || operation == NAME || operation == TIME) {
                     if (height < stack.length) {
-                        stack[height] = operandAt(i, row);
+                        stack[height] = operation == NAME ? row.numberAt((int) operands[i])
+                                : operation == TIME ? row.time : operands[i];
                         height++;
                     }
                 } else if (operation == NEGATE || operation == NOT || operation == ABS) {
@@ -1257,14 +1233,6 @@ public final class StreamDesk {
                 }
             }
             return height > 0 ? stack[0] : 0;
-        }
-
-        private long operandAt(int place, Row row) {
-            switch (operations[place]) {
-                case NAME: return row.numberAt((int) operands[place]);
-                case TIME: return row.time;
-                default: return operands[place];
-            }
         }
 
         private static long unary(int operation, long x) {
@@ -1425,9 +1393,10 @@ public final class StreamDesk {
         }
 
         void copyFrom(Row row) {
-            startAt(row.time);
-            for (int i = 0; i < row.width; i++) {
-                append(row.numberAt(i));
+            time = row.time;
+            width = row.width;
+            for (int i = 0; i < numbers.length && i < row.numbers.length; i++) {
+                numbers[i] = row.numbers[i];
             }
         }
 
@@ -1460,8 +1429,8 @@ public final class StreamDesk {
                 return false;
             }
             times[count] = row.time;
-            for (int i = 0; i < width && i < MAX_COLUMNS; i++) {
-                numbers[count * MAX_COLUMNS + i] = row.numberAt(i);
+            for (int i = 0; i < row.numbers.length && i < MAX_COLUMNS; i++) {
+                numbers[count * MAX_COLUMNS + i] = row.numbers[i];
             }
             count++;
             return true;
@@ -1807,24 +1776,29 @@ public final class StreamDesk {
         }
 
         private void lookAtNewRows(int s, Stream step, int input) {
-            int from = step.inputs[input];
-            if (from < 0 || from >= program.streamCount) {
+            Stream from = inputOf(step, input);
+            if (from == null) {
                 return;
             }
-            Table rows = program.streams[from].table;
-            for (int i = step.seen[input]; i < rows.count; i++) {
-                rows.copyTo(i, in);
+            for (int i = step.seen[input]; i < from.table.count; i++) {
+                from.table.copyTo(i, in);
                 if (step.kind == KIND_JOIN) {
                     joinNewRow(s, step, input == 0);
-                } else if (comesOut(s, step, i)) {
+                } else if (comesOut(s, step, from.table, i)) {
                     give(s, out);
                 }
             }
-            step.seen[input] = rows.count;
+            step.seen[input] = from.table.count;
         }
 
-        /** Makes what comes of the new row; tells whether the stream would get it. */
-        private boolean comesOut(int s, Stream step, int row) {
+        /** The first (0) or second (1) input of a step; null if there is none. */
+        private Stream inputOf(Stream step, int input) {
+            int from = step.inputs[input];
+            return from >= 0 && from < program.streamCount ? program.streams[from] : null;
+        }
+
+        /** Makes what comes of a new row; tells whether the stream would get it. */
+        private boolean comesOut(int s, Stream step, Table rows, int row) {
             switch (step.kind) {
                 case KIND_KEEP:
                     out.copyFrom(in);
@@ -1846,7 +1820,7 @@ public final class StreamDesk {
                     return true;
                 case KIND_FIRST:
                     out.copyFrom(in);
-                    return isFirst(step, row);
+                    return isFirst(step, rows, row);
                 case KIND_WINDOW:
                     return enters(s, false);
                 default:
@@ -1854,29 +1828,33 @@ public final class StreamDesk {
             }
         }
 
-        private boolean isFirst(Stream step, int row) {
-            Table rows = program.streams[step.inputs[0]].table;
+        private boolean isFirst(Stream step, Table rows, int row) {
             boolean isFirst = true;
-            for (int i = 0; i < row; i++) {
+            for (int i = 0; i < row && i < step.given.length; i++) {
                 if (step.given[i] && rows.numberOf(i, step.key) == in.numberAt(step.key)
                         && Math.abs(rows.timeOf(i) - in.time) <= step.span) {
                     isFirst = false;
                 }
             }
-            step.given[row] = isFirst;
+            if (row < step.given.length) {
+                step.given[row] = isFirst;
+            }
             return isFirst;
         }
 
         /** Joins the new row with the rows of the other input that are due. */
         private void joinNewRow(int s, Stream step, boolean isOfFirst) {
-            Table others = program.streams[step.inputs[isOfFirst ? 1 : 0]].table;
-            int due = isOfFirst ? step.seen[1] : others.count;
+            Stream other = inputOf(step, isOfFirst ? 1 : 0);
+            if (other == null) {
+                return;
+            }
+            int due = isOfFirst ? step.seen[1] : other.table.count;
+            int otherKey = isOfFirst ? step.otherKey : step.key;
             long number = in.numberAt(isOfFirst ? step.key : step.otherKey);
-            int othersKey = isOfFirst ? step.otherKey : step.key;
             for (int i = 0; i < due; i++) {
-                if (others.numberOf(i, othersKey) == number
-                        && Math.abs(others.timeOf(i) - in.time) <= step.span) {
-                    others.copyTo(i, partner);
+                if (other.table.numberOf(i, otherKey) == number
+                        && Math.abs(other.table.timeOf(i) - in.time) <= step.span) {
+                    other.table.copyTo(i, partner);
                     makeJoined(step, isOfFirst ? in : partner, isOfFirst ? partner : in);
                     give(s, out);
                 }
@@ -1922,9 +1900,12 @@ public final class StreamDesk {
         }
 
         private int leastWatermark(Stream step) {
-            int least = program.streams[step.inputs[0]].watermark;
-            return step.inputs[1] < 0 ? least
-                    : Math.min(least, program.streams[step.inputs[1]].watermark);
+            Stream first = inputOf(step, 0);
+            Stream second = inputOf(step, 1);
+            if (first == null) {
+                return step.watermark;
+            }
+            return second == null ? first.watermark : Math.min(first.watermark, second.watermark);
         }
 
         private void closeWindows(int s, Stream step) {
