@@ -1,1 +1,0 @@
-public final class Placeholder { public static void main(String[] a) { } }
