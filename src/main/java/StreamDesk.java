@@ -1423,8 +1423,8 @@ public final class StreamDesk {
             width = newWidth;
         }
 
-        /** Tells whether there was room for the row. */
-        boolean takes(Row row) {
+        /** Adds the row, if there is room; tells whether there was. */
+        boolean add(Row row) {
             if (count >= times.length) {
                 return false;
             }
@@ -1654,7 +1654,6 @@ public final class StreamDesk {
             lost = 0;
             stopped = false;
             pushes = 0;
-            taken = 0;
         }
 
         /** Does an entry, but for the steps; tells whether it was done, and not skipped. */
@@ -1662,11 +1661,11 @@ public final class StreamDesk {
             taken = 0;
             switch (entry.what) {
                 case ENTRY_PUSH:
-                    return takesPush(entry);
+                    return doPush(entry);
                 case ENTRY_RELEASE:
-                    return releases(entry.place);
+                    return doRelease(entry.place);
                 case ENTRY_DISCARD:
-                    return takesAway(entry.place);
+                    return removeHeld(entry.place);
                 default:
                     boolean wasStopped = stopped;
                     stopped = false;
@@ -1689,7 +1688,8 @@ public final class StreamDesk {
             }
         }
 
-        private boolean takesPush(Entry entry) {
+        /** Does a push, but for the steps; tells whether it was done. */
+        private boolean doPush(Entry entry) {
             int s = program.streamNamed(entry.source);
             if (stopped || s < 0) {
                 return false;
@@ -1704,35 +1704,36 @@ public final class StreamDesk {
             return true;
         }
 
-        private boolean releases(int place) {
+        /** Does a release, but for the steps; tells whether it was done. */
+        private boolean doRelease(int place) {
             if (place < 0 || place >= heldCount) {
                 return false;
             }
             in.copyFrom(held[place]);
             int s = held[place].stream;
             int reason = held[place].reason;
-            takesAway(place);
+            removeHeld(place);
             if (s < 0 || s >= program.streamCount) {
                 return true;
             }
             if (reason != REASON_LATE) {
                 accept(s, in);
-            } else if (enters(s, true)) {
+            } else if (enterWindow(s, true)) {
                 give(s, out);
             }
             return true;
         }
 
-        /** Takes a held row away, if it is there; tells whether it was. */
-        private boolean takesAway(int place) {
+        /** Removes a held row, if it is there; tells whether it was. */
+        private boolean removeHeld(int place) {
             if (place < 0 || place >= heldCount) {
                 return false;
             }
-            Row away = held[place];
+            Row removed = held[place];
             for (int i = place; i < heldCount - 1; i++) {
                 held[i] = held[i + 1];
             }
-            held[heldCount - 1] = away;
+            held[heldCount - 1] = removed;
             heldCount--;
             return true;
         }
@@ -1757,7 +1758,7 @@ public final class StreamDesk {
         }
 
         private void accept(int s, Row row) {
-            if (program.streams[s].table.takes(row)) {
+            if (program.streams[s].table.add(row)) {
                 taken++;
             } else {
                 lost++;
@@ -1822,7 +1823,7 @@ public final class StreamDesk {
                     out.copyFrom(in);
                     return isFirst(step, rows, row);
                 case KIND_WINDOW:
-                    return enters(s, false);
+                    return enterWindow(s, false);
                 default:
                     return false;
             }
@@ -1872,7 +1873,7 @@ public final class StreamDesk {
         }
 
         /** Puts the row into its window; tells whether the stream would get the window's row. */
-        private boolean enters(int s, boolean isReleased) {
+        private boolean enterWindow(int s, boolean isReleased) {
             Stream step = program.streams[s];
             if (step.span <= 0) {
                 return false;

@@ -16,6 +16,7 @@ public final class LanguageTest {
         takenNames();
         ranges();
         numbers();
+        manyPrograms();
         Due.end();
     }
 
@@ -144,6 +145,9 @@ public final class LanguageTest {
         right(S + "check s: " + times("abs(", 8) + "a" + times(")", 8) + " else drop");
         wrong(1, S + "check s: " + times("abs(", 8) + "abs^(a" + times(")", 9) + " else drop");
         right(S + "check s: -(a) + " + times("(", 8) + "a" + times(")", 8) + " else drop");
+        right(S + "check s: least(a, " + times("(", 7) + "a" + times(")", 7) + ") else drop");
+        wrong(1, S + "check s: least(a, " + times("(", 7) + "^(a" + times(")", 9) + " else drop");
+        wrong(1, S + "check s: least(" + times("(", 7) + "a" + times(")", 7) + ", -(" + times("-", 5) + "^-a)) else drop");
         // 59 tokens, 60 and 61 of them
         right(S + "check s: a" + times("+a", 29) + " else drop");
         right(S + "check s: -a" + times("+a", 29) + " else drop");
@@ -218,6 +222,8 @@ public final class LanguageTest {
         wrong(3, S + "check s: ^most(a, b, 1) else drop");
         right(S + "check s: abs(a) + least(a, b) + most(a, b) else drop");
         wrong(3, S + "source t(b, a) step u = ^merge s, t");
+        wrong(3, S + "source t(c, b) step u = ^merge s, t");
+        wrong(3, S + "source t(a, c) step u = ^merge s, t");
         wrong(3, S + "source t(a) step u = ^merge s, t");
         wrong(3, S + "source t(a, b, c) step u = ^merge s, t");
         right(S + "source t(a, b) step u = merge s, t step v = merge u, u");
@@ -275,6 +281,20 @@ public final class LanguageTest {
         right(S + "step t = window s by a every 1000 late 1000 (n = count)");
         wrong(6, S + "step t = window s by a every ^1001 (n = count)");
         wrong(6, S + "step t = window s by a every 1000 late ^1001 (n = count)");
+    }
+
+    /** A program does not take the room of the ones ahead of it, be they right or wrong. */
+    private static void manyPrograms() {
+        StreamDesk desk = new StreamDesk();
+        String sum = "a" + times("+a", 28);
+        String made = " = make s with c = " + sum + ", d = " + sum + ", e = " + sum + ", f = " + sum;
+        String program = S + "step t" + made + " step u" + made + " step v" + made;
+        for (int i = 0; i < 12; i++) {
+            Due.equal("compile of a long program", Feed.compile(desk, program), 0);
+            Due.equal("compile of a wrong one", Feed.compile(desk, program + " step v = keep s where a"), 5);
+            Due.equal("push", Feed.push(desk, 0, 0, i, 1), 4);
+            Due.equal("number of the last column", desk.cell(3, 0, 5), 29 * i);
+        }
     }
 
     /** What an expression yields for a = 7, b = -3 at time 11. */

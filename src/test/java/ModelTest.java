@@ -13,6 +13,12 @@ public final class ModelTest {
     private static int right;
     private static int compiled;
 
+    /** How many runs came to each of these, so that none of them is left out unseen. */
+    private static final String[] EVENTS = {"lost rows", "a full stream", "a full log", "a late row held", "closed windows",
+        "60 held rows", "60 windows", "a stopped desk", "skipped entries", "rows at another place", "a row released"};
+    private static final int[] REACHED = new int[EVENTS.length];
+    private final boolean[] reached = new boolean[EVENTS.length];
+
     private ModelTest(Random random) {
         this.random = random;
     }
@@ -24,6 +30,10 @@ public final class ModelTest {
             new ModelTest(new Random(run)).run(run);
         }
         System.out.println(right + " of " + compiled + " programs were right");
+        for (int i = 0; i < EVENTS.length; i++) {
+            System.out.println(REACHED[i] + " runs came to " + EVENTS[i]);
+            Due.yes("a run came to " + EVENTS[i], REACHED[i] > 0);
+        }
         Due.end();
     }
 
@@ -53,10 +63,19 @@ public final class ModelTest {
 
     private void run(int run) {
         double slips = run % 3 == 0 ? 0.02 : 0;
+        spread = run % 4 == 1 ? 100 : 8;
         compile(slips);
-        while (calls < 500 && !differs) {
+        // Longer runs than the document asks for come to limits that others do not.
+        int most = run % 5 == 0 ? 3000 : 500;
+        while (calls < most && !differs) {
             call(slips);
             digests();
+            if (calls % 8 == 0) {
+                look();
+            }
+        }
+        for (int i = 0; i < EVENTS.length; i++) {
+            REACHED[i] += reached[i] ? 1 : 0;
         }
         if (differs) {
             System.out.println("---- run " + run);
@@ -64,7 +83,23 @@ public final class ModelTest {
         }
     }
 
-    /** The digest as two halves, as a double has no room for all of its bits. */
+    private void look() {
+        reached[0] |= desk.lost() > 0;
+        reached[2] |= desk.count(3) == 200;
+        reached[5] |= desk.count(5) == 60;
+        reached[7] |= desk.isStopped();
+        for (int s = 0; s < desk.count(0); s++) {
+            reached[1] |= desk.rows(s) == 200;
+            reached[4] |= desk.windows(s, true) > 0;
+            reached[6] |= desk.windows(s, true) + desk.windows(s, false) == 60;
+            reached[9] |= desk.changed(s) > 0 && desk.changed(s) < desk.rows(s);
+        }
+        for (int i = 0; i < desk.count(5); i++) {
+            reached[3] |= desk.held(i, 1) == -1;
+        }
+    }
+
+    /** The digest is no call of the run's answers, as a double has no room for all of its bits. */
     private void digests() {
         long got = desk.digest();
         long want = model.digest();
@@ -111,10 +146,11 @@ public final class ModelTest {
 
     private long number() {
         int what = random.nextInt(40);
-        return what == 0 ? random.nextLong() : what == 1 ? Long.MIN_VALUE : random.nextInt(8) - 1;
+        return what == 0 ? random.nextLong() : what == 1 ? Long.MIN_VALUE : random.nextInt(spread) - 1;
     }
 
     private int time;
+    private int spread;
 
     private void call(double slips) {
         int what = random.nextInt(100);
@@ -131,6 +167,7 @@ public final class ModelTest {
             both("back " + k, () -> desk.back(k), () -> model.back(k));
         } else if (what == 89 && random.nextInt(3) == 0) {
             both("replay", desk::replay, model::replay);
+            reached[8] |= desk.count(0) > 0 && desk.replay() > 0;
         } else if (what == 90 && random.nextInt(6) == 0) {
             compile(slips);
         } else if (what == 91) {
@@ -191,6 +228,7 @@ public final class ModelTest {
         both("heldValue " + held + " " + n, () -> desk.heldValue(held, n), () -> model.heldValue(held, n));
         if (random.nextBoolean()) {
             both("release " + held, () -> desk.release(held), () -> model.release(held));
+            reached[10] |= held >= 0 && held < desk.count(5);
         } else if (random.nextInt(4) == 0) {
             both("discard " + held, () -> desk.discard(held), () -> model.discard(held));
         }

@@ -36,6 +36,10 @@ final class Programs {
         return random.nextDouble() < slips;
     }
 
+    private int smallOrNot(int small) {
+        return random.nextInt(random.nextInt(4) == 0 ? 1000 : small);
+    }
+
     private String oneOf(List<String> list) {
         return slips() ? "q" : list.get(random.nextInt(list.size()));
     }
@@ -78,7 +82,7 @@ final class Programs {
         String name = newName();
         text.append("source ").append(name).append("(").append(String.join(", ", some)).append(")");
         if (random.nextBoolean()) {
-            text.append(" delay ").append(slips() ? 1001 : random.nextInt(12));
+            text.append(" delay ").append(slips() ? 1001 : smallOrNot(12));
         }
         names.add(name);
         columns.add(some);
@@ -182,9 +186,9 @@ final class Programs {
         made.add(k);
         made.add("begin");
         text.append("window ").append(names.get(s)).append(" by ").append(k).append(" every ")
-                .append(slips() ? random.nextInt(2) * 1001 : 1 + random.nextInt(9));
+                .append(slips() ? random.nextInt(2) * 1001 : 1 + smallOrNot(9));
         if (random.nextBoolean()) {
-            text.append(" late ").append(random.nextInt(12));
+            text.append(" late ").append(smallOrNot(12));
         }
         int n = 1 + random.nextInt(slips() ? 5 : 3);
         for (int i = 0; i < n; i++) {
