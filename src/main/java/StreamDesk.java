@@ -1299,9 +1299,13 @@ public final class StreamDesk {
         private final boolean[] given = new boolean[MAX_ROWS];
         private final Windows windows = new Windows();
 
+        /** Forgets what an earlier program said of it. */
         void clear() {
+            kind = KIND_SOURCE;
             inputs[0] = -1;
             inputs[1] = -1;
+            key = 0;
+            otherKey = 0;
             span = 0;
             late = 0;
         }
@@ -1757,6 +1761,7 @@ public final class StreamDesk {
             accept(s, row);
         }
 
+        /** A stream takes a row without checks, or the row is lost. */
         private void accept(int s, Row row) {
             if (program.streams[s].table.add(row)) {
                 taken++;
@@ -1776,6 +1781,7 @@ public final class StreamDesk {
             heldCount++;
         }
 
+        /** Looks at the rows that an input took since the step looked at it last. */
         private void lookAtNewRows(int s, Stream step, int input) {
             Stream from = inputOf(step, input);
             if (from == null) {
@@ -1829,18 +1835,19 @@ public final class StreamDesk {
             }
         }
 
+        /** Tells whether a "first" gives the row on, and keeps it in mind. */
         private boolean isFirst(Stream step, Table rows, int row) {
-            boolean isFirst = true;
+            boolean isGiven = true;
             for (int i = 0; i < row && i < step.given.length; i++) {
                 if (step.given[i] && rows.numberOf(i, step.key) == in.numberAt(step.key)
                         && Math.abs(rows.timeOf(i) - in.time) <= step.span) {
-                    isFirst = false;
+                    isGiven = false;
                 }
             }
             if (row < step.given.length) {
-                step.given[row] = isFirst;
+                step.given[row] = isGiven;
             }
-            return isFirst;
+            return isGiven;
         }
 
         /** Joins the new row with the rows of the other input that are due. */
@@ -1862,6 +1869,7 @@ public final class StreamDesk {
             }
         }
 
+        /** Makes the row of both: the key stands in it once. */
         private void makeJoined(Stream step, Row left, Row right) {
             out.copyFrom(left);
             out.time = Math.max(left.time, right.time);
