@@ -20,22 +20,12 @@ public final class LanguageTest {
         Due.end();
     }
 
-    /** The program has the error at the only place where the mark ^ stands in it, or behind all. */
     private static void wrong(int error, String marked) {
-        StreamDesk desk = new StreamDesk();
-        String program = marked.replace("^", "");
-        int at = marked.indexOf('^');
-        Due.equal("compile of " + marked, Feed.compile(desk, program), error);
-        Due.equal("errorAt of " + marked, desk.errorAt(), at);
-        Due.equal("tape behind " + marked, desk.count(2), 0);
-        Due.equal("streams behind " + marked, desk.count(0), 0);
+        Verdict.wrong(error, marked);
     }
 
     private static void right(String program) {
-        StreamDesk desk = new StreamDesk();
-        Due.equal("compile of " + program, Feed.compile(desk, program), 0);
-        Due.equal("errorAt of " + program, desk.errorAt(), -1);
-        Due.equal("tape behind " + program, desk.count(2), 0);
+        Verdict.right(program);
     }
 
     private static void tokens() {

@@ -26,12 +26,7 @@ public final class RoundsTest {
     }
 
     private static void rows(StreamDesk desk, int stream, long[]... want) {
-        Due.equal("rows of " + stream, desk.rows(stream), want.length);
-        for (int row = 0; row < want.length && row < desk.rows(stream); row++) {
-            for (int i = 0; i < want[row].length; i++) {
-                Due.equal("cell " + stream + ", " + row + ", " + (i - 1), desk.cell(stream, row, i - 1), want[row][i]);
-            }
-        }
+        Rows.equal(desk, stream, want);
     }
 
     private static long[] row(long... timeAndNumbers) {

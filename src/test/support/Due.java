@@ -7,6 +7,7 @@ final class Due {
 
     private static int wrong = 0;
     private static int looked = 0;
+    private static String sentence = "";
 
     private Due() {
     }
@@ -47,11 +48,22 @@ final class Due {
         equal("the digest behind " + what + ", which throws", desk.digest(), before);
     }
 
+    /** The words of the document that the answers looked at from now on belong to. */
+    static void sentence(String words) {
+        sentence = words;
+    }
+
     static void tell(String text) {
         wrong++;
         if (wrong <= 40) {
-            System.out.println(text);
+            System.out.println(shortened(text) + (sentence.isEmpty() ? "" : "\n    the document: " + sentence));
         }
+    }
+
+    /** Without the middle of a long program. */
+    private static String shortened(String text) {
+        int length = text.length();
+        return length < 500 ? text : text.substring(0, 300) + " .. " + text.substring(length - 100);
     }
 
     /** Ends the test, with 1 if an answer was not due. */

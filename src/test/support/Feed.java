@@ -39,4 +39,12 @@ final class Feed {
         }
         return desk.push(source, time);
     }
+
+    /** A push to a desk that is stopped; its numbers stay. */
+    static void pushRefused(StreamDesk desk, int source, int time, long... numbers) {
+        for (long number : numbers) {
+            desk.value(number);
+        }
+        Due.thrown(desk, "push to a desk that is stopped", IllegalStateException.class, () -> desk.push(source, time));
+    }
 }
