@@ -30,6 +30,8 @@ public final class AnewBoundsTest {
         backSkipsInTheSameWay();
         compileLeavesTheLogAlone();
         replayOfAnEmptyLog();
+        replayOfAllSteps();
+        replayKeepsMarks();
         skippedForItsName();
         skippedForItsColumns();
         skippedWhileStopped();
@@ -39,10 +41,12 @@ public final class AnewBoundsTest {
         entriesHaveTheirOwnTimes();
         deskWithoutRows();
         changedPlaces();
+        changedByARowOfZeros();
         changedByColumns();
         changedByNames();
         changedSinceTheProgramOfNow();
         takenSinceWithoutRows();
+        takenByTheSourcesOfNow();
         Due.end();
     }
 
@@ -481,6 +485,50 @@ public final class AnewBoundsTest {
         Due.equal("taken", desk.taken(), 1.0);
     }
 
+    private static void replayOfAllSteps() {
+        Due.sentence("replay() does the whole log anew, from a desk without rows: all steps look at all rows again");
+        StreamDesk desk = Feed.desk("source s(k, a) delay 2 source t(k, a) source u(k, b) check s: a <> 5 else hold"
+                + " check t: a <> 6 else stop step m = merge s, t step n = merge m, m step j = join m, u on k within 4"
+                + " step f = first n by k within 3 step v = make f with c = time step p = pick v (k, c)"
+                + " step w = window j by k every 5 late 3 (x = sum a, y = count) step x = keep w where y");
+        for (int i = 0; i < 40; i++) {
+            Feed.push(desk, i % 3, i + i * i * 7 % 9, i % 2, i % 8 == 7 ? 5 : i);
+            if (desk.count(5) > 1) {
+                desk.release(1);
+            }
+        }
+        Feed.push(desk, 1, 50, 0, 6);
+        Due.yes("stopped", desk.isStopped());
+        for (int s = 0; s < 11; s++) {
+            Due.yes("rows of " + s, desk.rows(s) > 0);
+        }
+        desk.mark();
+        String before = Look.over(desk);
+        for (int i = 0; i < 3; i++) {
+            Due.equal("replay", desk.replay(), 0);
+            Due.yes("all is as it was behind replay", Look.over(desk).equals(before));
+            Due.equal("back", desk.back(0), 0);
+            Due.yes("all is as it was behind back", Look.over(desk).equals(before));
+        }
+    }
+
+    private static void replayKeepsMarks() {
+        Due.sentence("compile() with a right program: .. marks are gone; replay() does the whole log anew");
+        StreamDesk desk = Feed.desk("source s(a)");
+        desk.mark();
+        Feed.push(desk, 0, 1, 1);
+        desk.mark();
+        Feed.push(desk, 0, 2, 2);
+        desk.replay();
+        Due.equal("marks behind replay", desk.count(4), 2);
+        Due.equal("back behind replay", desk.back(1), 1);
+        Due.equal("back behind replay", desk.back(0), 1);
+        Feed.compile(desk, "source s(a, a)");
+        Due.equal("marks behind a wrong program", desk.count(4), 1);
+        Feed.compile(desk, "source s(a)");
+        Due.equal("marks behind a right program", desk.count(4), 0);
+    }
+
     private static void skippedForItsName() {
         Due.sentence("an entry is skipped, if it is a push to a source of a name that is none");
         StreamDesk desk = Feed.desk("source s(a) source t(a) source abcdefgh(a)");
@@ -684,6 +732,22 @@ public final class AnewBoundsTest {
         Due.equal("changed by the last row", full.changed(0), 1);
     }
 
+    /** A place without a row is not the same as a row of zeros at time 0. */
+    private static void changedByARowOfZeros() {
+        Due.sentence("the number of places at which only one of both has a row");
+        StreamDesk desk = Feed.desk("source s(a) source t(a)");
+        Feed.push(desk, 0, 0, 0);
+        Due.equal("changed: the program of now alone has a row", desk.changed(0), 1);
+        Feed.compile(desk, "source s(a) source t(a)");
+        Due.equal("changed: the program ahead of it alone has a row", desk.changed(0), 1);
+        Feed.push(desk, 0, 0, 0);
+        Due.equal("changed: both have the row", desk.changed(0), 0);
+        Feed.push(desk, 0, 0, 0);
+        Due.equal("changed: one row more", desk.changed(0), 1);
+        Feed.push(desk, 1, 0, 0);
+        Due.equal("changed: one row more", desk.changed(1), 1);
+    }
+
     private static void changedByColumns() {
         Due.sentence("or the times or numbers are not the same: each of the numbers, and how many there are");
         for (int column = -1; column < 6; column++) {
@@ -777,5 +841,28 @@ public final class AnewBoundsTest {
         Feed.compile(desk, "source s(a, b)");
         desk.replay();
         Due.equal("taken, all pushes skipped", desk.taken(), 1.0);
+    }
+
+    private static void takenByTheSourcesOfNow() {
+        Due.sentence("the number of rows that all sources have: those of one stream, and of twelve");
+        StringBuilder twelve = new StringBuilder();
+        for (int i = 0; i < 12; i++) {
+            twelve.append("source s").append(i).append("(a) ");
+        }
+        twelve.append("check s0: a else drop");
+        StreamDesk desk = Feed.desk(twelve.toString());
+        for (int round = 0; round < 4; round++) {
+            for (int s = 0; s < 12; s++) {
+                Feed.push(desk, s, 0, 1);
+            }
+            Due.equal("taken by twelve", desk.taken(), 1.0);
+            Feed.push(desk, 0, 0, 0);
+            Due.equal("taken by twelve", desk.taken(), 12.0 / 13.0);
+            Feed.compile(desk, "source s0(a) check s0: a else drop");
+            Feed.push(desk, 0, 0, 1);
+            Feed.push(desk, 0, 0, 0);
+            Due.equal("taken by one", desk.taken(), 0.5);
+            Feed.compile(desk, twelve.toString());
+        }
     }
 }

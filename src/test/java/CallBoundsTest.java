@@ -38,6 +38,7 @@ public final class CallBoundsTest {
         go();
         digestOfANewObject();
         digestInItsOrder();
+        digestOfALostRow();
         refusedCallsOfANewDesk();
         refusedCallsOfADeskAtWork();
         refusedCallsOfAStoppedDesk();
@@ -513,6 +514,32 @@ public final class CallBoundsTest {
         Due.equal("digest", desk.digest(), mixed(3, 2, 20, 5, 2, 3, 1, 0,
                 25, 3, 12, 3, 4, 25, -5, Long.MIN_VALUE, 9, 6, 7, 3, 0, 25, 1, 20, 3, 10, 1,
                 0, 0, 0, 0, -1, 2, -1, 9, 6, 7, 1, 1, 8, 0));
+    }
+
+    private static void digestOfALostRow() {
+        Due.sentence("digest: 1 if the desk is stopped, else 0; the lost rows");
+        StreamDesk desk = Feed.desk("source s(a) step m = merge s, s step n = merge m, m check n: 0 else hold check m: a else stop");
+        for (int i = 0; i < 16; i++) {
+            Feed.push(desk, 0, 0, 1);
+        }
+        Due.equal("lost", desk.lost(), 4);
+        long[] numbers = new long[8 + 2 + 16 * 2 + 2 + 32 * 2 + 2 + 60 * 4];
+        long[] counts = {3, 2, 0, 16, 0, 60, 0, 4};
+        System.arraycopy(counts, 0, numbers, 0, 8);
+        int at = 8;
+        for (int rows = 16; rows <= 32; rows += 16) {
+            numbers[at + 1] = rows;
+            for (int row = 0; row < rows; row++) {
+                numbers[at + 2 + row * 2 + 1] = 1;
+            }
+            at += 2 + rows * 2;
+        }
+        at += 2;
+        for (int held = 0; held < 60; held++) {
+            numbers[at + held * 4] = 2;
+            numbers[at + held * 4 + 3] = 1;
+        }
+        Due.equal("digest", desk.digest(), mixed(numbers));
     }
 
     private static long mixed(long... numbers) {

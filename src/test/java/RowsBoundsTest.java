@@ -35,6 +35,7 @@ public final class RowsBoundsTest {
         placeIsFreeBehindDiscardAndRelease();
         brokenCountsLostRows();
         rowOfOneAndOfSixNumbers();
+        numbersOfHeldRowsOfEachStep();
         Due.end();
     }
 
@@ -339,5 +340,36 @@ public final class RowsBoundsTest {
         Due.thrown(desk, "cell of a second column", IndexOutOfBoundsException.class, () -> desk.cell(0, 0, 1));
         Due.thrown(desk, "cell of a seventh column", IndexOutOfBoundsException.class, () -> desk.cell(1, 0, 6));
         Due.thrown(desk, "a seventh number", IndexOutOfBoundsException.class, () -> desk.heldValue(0, 6));
+    }
+
+    private static void numbersOfHeldRowsOfEachStep() {
+        Due.sentence("A row has a time, and a number for each column: also a held row of each kind of step");
+        String program = "source s(k, a, b) source t(k, c) step x = ";
+        String[] works = {"keep s where 1", "make s with d = 7", "pick s (b, a)", "merge t, t", "join s, t on k within 9",
+            "first s by k within 5", "window s by k every 5 (n = count)", "window s by k every 5 (n = count, m = sum a, o = last b)"};
+        long[][] due = {{2, 0, 0, 1, 2, 3}, {2, 0, 0, 1, 2, 3, 7}, {2, 0, 0, 3, 2}, {2, 0, 0, 1, 4}, {2, 0, 0, 1, 2, 3, 4},
+            {2, 0, 0, 1, 2, 3}, {2, 0, 5, 1, 0, 1}, {2, 0, 5, 1, 0, 1, 2, 3}};
+        for (int i = 0; i < works.length; i++) {
+            StreamDesk desk = Feed.desk(program + works[i] + " check x: 0 else hold");
+            Feed.push(desk, 0, 0, 1, 2, 3);
+            Feed.push(desk, 1, 0, 1, 4);
+            Feed.push(desk, 0, 5, 9, 9, 9);
+            Rows.heldEqual(desk, 0, due[i]);
+            int width = due[i].length - 3;
+            Due.thrown(desk, "heldValue(0, " + width + ") of " + works[i], IndexOutOfBoundsException.class,
+                    () -> desk.heldValue(0, width));
+            Due.equal("release", desk.release(0), 1);
+            Due.thrown(desk, "cell of one more column", IndexOutOfBoundsException.class, () -> desk.cell(2, 0, width));
+        }
+        StreamDesk late = Feed.desk("source s(k, a) step w = window s by k every 5 (n = count, m = count)");
+        Feed.push(late, 0, 5, 1, 1);
+        Feed.push(late, 0, 0, 1, 2);
+        Rows.heldEqual(late, 0, 1, -1, 0, 1, 2);
+        Due.thrown(late, "heldValue(0, 2) of a late row", IndexOutOfBoundsException.class, () -> late.heldValue(0, 2));
+        StreamDesk atOnce = Feed.desk("source s(k) step w = window s by k every 5 late 5 (n = count) check w: 0 else hold");
+        Feed.push(atOnce, 0, 9, 1);
+        Feed.push(atOnce, 0, 4, 2);
+        Rows.heldEqual(atOnce, 0, 1, 0, 5, 2, 0, 1);
+        Due.thrown(atOnce, "heldValue(0, 3) of a row at once", IndexOutOfBoundsException.class, () -> atOnce.heldValue(0, 3));
     }
 }

@@ -23,6 +23,7 @@ public final class TermsBoundsTest {
         remainderByZero();
         divisionByZeroInCheck();
         relationsOfExtremes();
+        andOrNot();
         leastAndMostOfExtremes();
         totalsOfExtremes();
         positionsFromZero();
@@ -220,6 +221,22 @@ public final class TermsBoundsTest {
                 yields("a " + signs[i] + " b", pair[0], pair[0], same[i]);
             }
         }
+    }
+
+    private static void andOrNot() {
+        Due.sentence("A relation, and, or, not yield 1 or 0; a number other than 0 is true.");
+        long[] numbers = {MIN, -2, -1, 0, 1, 2, 1L << 32, MAX};
+        for (long a : numbers) {
+            yields("not a", a, 0, a == 0 ? 1 : 0);
+            yields("not not a", a, 0, a == 0 ? 0 : 1);
+            for (long b : numbers) {
+                yields("a and b", a, b, a != 0 && b != 0 ? 1 : 0);
+                yields("a or b", a, b, a != 0 || b != 0 ? 1 : 0);
+            }
+        }
+        yields("a and b and 3", 5, 7, 1);
+        yields("0 or a or 0", 5, 7, 1);
+        yields("(a and b) + (a or b) + (a < b) + not 0", 5, 7, 4);
     }
 
     private static void leastAndMostOfExtremes() {

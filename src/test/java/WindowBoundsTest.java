@@ -21,6 +21,7 @@ public final class WindowBoundsTest {
         begunClosed();
         goneAtTheEndAndLate();
         goneAtOnceWithoutLate();
+        windowsThatStayKeepTheirRows();
         rowOfAWindow();
         totalsOverAllRows();
         totalsOfOneRow();
@@ -278,6 +279,26 @@ public final class WindowBoundsTest {
         Rows.equal(some, 1, new long[] {10, 1, 0, 1, 5}, new long[] {10, 3, 0, 1, 6}, new long[] {20, 0, 10, 1, 15},
                 new long[] {20, 4, 10, 1, 16}, new long[] {30, 2, 20, 1, 25}, new long[] {30, 5, 20, 1, 26},
                 new long[] {40, 9, 30, 1, 30});
+    }
+
+    private static void windowsThatStayKeepTheirRows() {
+        Due.sentence("Windows whose end and m together are not greater than the watermark are gone then: the others keep all rows");
+        StreamDesk desk = Feed.desk("source s(k, a) delay 10 step w = window s by k every 10 late 2 (c = count, x = sum a, l = least a,"
+                + " m = most a)");
+        int[] times = {5, 11, 21, 12, 22, 23};
+        for (int i = 0; i < times.length; i++) {
+            Feed.push(desk, 0, times[i], 7, i + 1);
+        }
+        Due.equal("push behind the end of the first window", Feed.push(desk, 0, 20, 8, 0), 1);
+        Due.equal("closed windows: the first one is gone", desk.windows(1, true), 0);
+        Due.equal("open windows", desk.windows(1, false), 3);
+        Due.equal("push into one that stays", Feed.push(desk, 0, 13, 7, -9), 1);
+        Due.equal("push into one that stays", Feed.push(desk, 0, 25, 7, 100), 1);
+        Due.equal("push that closes one", Feed.push(desk, 0, 31, 8, 0), 2);
+        Due.equal("push into a closed one that is there", Feed.push(desk, 0, 14, 7, 50), 2);
+        Due.equal("push that closes two", Feed.push(desk, 0, 40, 8, 0), 3);
+        Rows.equal(desk, 1, new long[] {10, 7, 0, 1, 1, 1, 1}, new long[] {20, 7, 10, 3, -3, -9, 4},
+                new long[] {20, 7, 10, 4, 47, -9, 50}, new long[] {30, 7, 20, 4, 114, 3, 100}, new long[] {30, 8, 20, 1, 0, 0, 0});
     }
 
     private static void rowOfAWindow() {
