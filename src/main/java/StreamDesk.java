@@ -498,18 +498,6 @@ public final class StreamDesk {
             }
         }
 
-        int kindAt(int index) {
-            return index >= 0 && index < count ? kinds[index] : BAD;
-        }
-
-        int startOf(int index) {
-            return index >= 0 && index < count ? starts[index] : 0;
-        }
-
-        long valueOf(int index) {
-            return index >= 0 && index < count ? values[index] : 0;
-        }
-
         void scan(byte[] tape, int length) {
             count = 0;
             int end = Math.min(length, tape.length);
@@ -660,8 +648,8 @@ public final class StreamDesk {
                 case MAKE: newColumns(); break;
                 case PICK: takeNames(PICKED); break;
                 case MERGE: secondInput(); break;
-                case JOIN: secondInput(); key(ON); takeRange(WITHIN); break;
-                case FIRST: key(BY); takeRange(WITHIN); break;
+                case JOIN: secondInput(); take(ON); takeName(KEY); takeRange(WITHIN); break;
+                case FIRST: take(BY); takeName(KEY); takeRange(WITHIN); break;
                 case WINDOW: window(); break;
                 default: break;
             }
@@ -697,13 +685,9 @@ public final class StreamDesk {
             takeName(SECOND_INPUT);
         }
 
-        private void key(int word) {
-            take(word);
-            takeName(KEY);
-        }
-
         private void window() {
-            key(BY);
+            take(BY);
+            takeName(KEY);
             takeRange(EVERY);
             if (kind == LATE) {
                 takeRange(LATE);
@@ -711,17 +695,17 @@ public final class StreamDesk {
             take('(');
             for (int i = 0; i < MAX_TAPE && (i == 0 || kind == ','); i++) {
                 takeComma(i);
-                if (startTotal() != COUNT) {
+                takeName(NEW_COLUMN);
+                take('=');
+                if (takeTotal() != COUNT) {
                     wholeExpression();
                 }
             }
             take(')');
         }
 
-        /** Returns the word that says what the total is. */
-        private int startTotal() {
-            takeName(NEW_COLUMN);
-            take('=');
+        /** Takes the word that says what a total is, and returns it. */
+        private int takeTotal() {
             int total = kind;
             if (total == COUNT || total == SUM || total == LEAST || total == MOST || total == LAST) {
                 meaning.setTotal(total);
@@ -893,13 +877,14 @@ public final class StreamDesk {
         }
 
         private void advance() {
-            if (failedAt >= 0) {
+            int next = index + 1;
+            if (failedAt >= 0 || next < 0 || next >= tokens.count) {
                 return;
             }
-            index++;
-            kind = tokens.kindAt(index);
-            position = tokens.startOf(index);
-            value = tokens.valueOf(index);
+            index = next;
+            kind = tokens.kinds[index];
+            position = tokens.starts[index];
+            value = tokens.values[index];
         }
 
         private void fail() {
@@ -988,7 +973,7 @@ public final class StreamDesk {
             }
             switch (role) {
                 case NEW_STREAM: nameStream(word, at); break;
-                case NEW_COLUMN: addColumn(word, at); break;
+                case NEW_COLUMN: nameColumn(word, at); break;
                 case FIRST_INPUT: setFirstInput(word, at); break;
                 case SECOND_INPUT: setSecondInput(word, at); break;
                 case KEY: setKey(word, at); break;
@@ -1094,17 +1079,24 @@ public final class StreamDesk {
             streamNameAt = at;
         }
 
-        private void addColumn(long word, int at) {
+        private void nameColumn(long word, int at) {
+            if (!addColumn(word)) {
+                report(ERROR_TAKEN, at);
+            }
+        }
+
+        /** Adds a column, if no other one has its name; tells whether it was added. */
+        private boolean addColumn(long word) {
             for (int i = 0; i < width && i < names.length; i++) {
                 if (names[i] == word) {
-                    report(ERROR_TAKEN, at);
-                    return;
+                    return false;
                 }
             }
             if (width < names.length) {
                 names[width] = word;
                 width++;
             }
+            return true;
         }
 
         private void setFirstInput(long word, int at) {
@@ -1140,9 +1132,8 @@ public final class StreamDesk {
             stream.otherKey = stream.kind == KIND_JOIN ? other.columnNamed(word) : stream.key;
             if (stream.key < 0 || stream.otherKey < 0) {
                 report(ERROR_UNKNOWN, at);
-            } else if (stream.kind == KIND_WINDOW) {
-                addColumn(word, at);
-                addColumn(BEGIN, at);
+            } else if (stream.kind == KIND_WINDOW && !(addColumn(word) && addColumn(BEGIN))) {
+                report(ERROR_TAKEN, at);
             }
         }
 
@@ -1150,16 +1141,17 @@ public final class StreamDesk {
             int column = scope.columnNamed(word);
             if (column < 0) {
                 report(ERROR_UNKNOWN, at);
-            } else {
-                addColumn(word, at);
+            } else if (addColumn(word)) {
                 stream.setPart(width - 1, column);
+            } else {
+                report(ERROR_TAKEN, at);
             }
         }
 
         private void addOtherColumns() {
             for (int i = 0; i < other.width; i++) {
-                if (i != stream.otherKey && error == 0) {
-                    addColumn(other.columnAt(i), secondInputAt);
+                if (i != stream.otherKey && !addColumn(other.columnAt(i))) {
+                    report(ERROR_TAKEN, secondInputAt);
                 }
             }
         }
